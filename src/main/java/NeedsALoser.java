@@ -10,6 +10,7 @@ public final class NeedsALoser {
     private static final int NOTHING = -4;
     private static final int STUCK = -5;
     private static final int FULL = -6;
+    /** Stands where a refusal would, if there is none. */
     private static final int ALLOWED = 0;
     /** What is added to a refusal where an answer below 0 could be mistaken for one. */
     private static final int BELOW = -1000000;
@@ -936,7 +937,7 @@ public final class NeedsALoser {
         }
     }
 
-    /** For each BARGAIN its third, or NONE. */
+    /** Which BARGAINS are made (bits), who is taken by them (bits), and for those made their thirds. */
     private static final class Week {
         static final int TELLINGS = 3;
         static final int VALUE = 0;
@@ -999,9 +1000,6 @@ public final class NeedsALoser {
         }
 
         private void begin() {
-            for (int b = 0; b < thirds.length; b++) {
-                thirds[b] = NONE;
-            }
             made = 0;
             taken = 0;
         }

@@ -16,8 +16,10 @@ public final class NeedsALoser {
     private static final int BELOW = -1000000;
     private static final int REFUSALS = 5;
     private static final int FIRST_REFUSAL_TOLD = 12;
-    /** PEOPLE, BARGAINS and SHELVES: of each there are 8 at most. */
-    private static final int MOST = 8;
+    private static final int MOST_PEOPLE = 7;
+    private static final int MOST_BARGAINS = 7;
+    private static final int SHELVES = 8;
+    private static final int BITS_OF_INT = 32;
     private static final int MOST_GAIN = 99;
     private static final int MOST_LOSS = 99;
     private static final int MOST_LEAST = 99;
@@ -43,7 +45,7 @@ public final class NeedsALoser {
     // ---- SHELVES ----
 
     public int row(int s, int sort, int n) {
-        if (!isBelow(s, MOST) || !isBelow(sort, Shelves.SORTS) || !isWithin(n, 0, Shelves.WIDTH)) {
+        if (!isBelow(s, SHELVES) || !isBelow(sort, Shelves.SORTS) || !isWithin(n, 0, Shelves.WIDTH)) {
             return refuse(BAD);
         }
         shelves.putRow(s, sort, n);
@@ -80,7 +82,7 @@ public final class NeedsALoser {
     }
 
     public int rule(int s, int kind, int a) {
-        if (!isBelow(s, MOST) || !isWithin(kind, Rules.MILD, Rules.ROUND) || !isWithin(a, 0, Rules.MOST_A)) {
+        if (!isBelow(s, SHELVES) || !isWithin(kind, Rules.MILD, Rules.ROUND) || !isWithin(a, 0, Rules.MOST_A)) {
             return refuse(BAD);
         }
         shelves.putRule(s, kind, a);
@@ -88,7 +90,7 @@ public final class NeedsALoser {
     }
 
     public int says(int s, int kind) {
-        if (!isBelow(s, MOST) || !isWithin(kind, Rules.RULE, Rules.ROUND)) {
+        if (!isBelow(s, SHELVES) || !isWithin(kind, Rules.RULE, Rules.ROUND)) {
             return refuse(BAD);
         }
         int refusal = shelves.ruleRefusal(s);
@@ -107,7 +109,7 @@ public final class NeedsALoser {
     // ---- THE TOWN ----
 
     public int one() {
-        return now.people >= MOST ? refuse(FULL) : now.addPerson();
+        return now.people >= MOST_PEOPLE ? refuse(FULL) : now.addPerson();
     }
 
     public int bargain(int p, int q, int gainOfP, int gainOfQ) {
@@ -115,7 +117,7 @@ public final class NeedsALoser {
                 || !isWithin(gainOfP, 0, MOST_GAIN) || !isWithin(gainOfQ, 0, MOST_GAIN)) {
             return refuse(BAD);
         }
-        return now.bargains >= MOST ? refuse(FULL) : now.addBargain(p, q, gainOfP, gainOfQ);
+        return now.bargains >= MOST_BARGAINS ? refuse(FULL) : now.addBargain(p, q, gainOfP, gainOfQ);
     }
 
     public int hurts(int bargain, int one, int v) {
@@ -211,7 +213,7 @@ public final class NeedsALoser {
     // ---- WEEKS ----
 
     public int name(int s, int bargain, int named) {
-        if (!isBelow(s, MOST) || !now.hasBargain(bargain) || !isBelow(named, 1 << now.people)) {
+        if (!isBelow(s, SHELVES) || !now.hasBargain(bargain) || !isBelow(named, 1 << now.people)) {
             return refuse(BAD);
         }
         int refusal = shelves.ruleRefusal(s);
@@ -239,7 +241,7 @@ public final class NeedsALoser {
     public int head() {
         int first = NONE;
         int greatest = 0;
-        for (int s = 0; s < MOST; s++) {
+        for (int s = 0; s < SHELVES; s++) {
             if (shelves.ruleRefusal(s) == ALLOWED) {
                 int sum = tellByShelf(s, Week.VALUE);
                 if (first == NONE || sum > greatest) {
@@ -625,7 +627,7 @@ public final class NeedsALoser {
     }
 
     private static boolean hasBit(int bits, int place) {
-        return isBelow(place, MOST) && (bits >> place & 1) == 1;
+        return isBelow(place, BITS_OF_INT) && (bits >> place & 1) == 1;
     }
 
     private static int at(int[] numbers, int i) {
@@ -661,14 +663,14 @@ public final class NeedsALoser {
         private int seed = 1;
         private int weeksLived = 0;
         private int madeInAll = 0;
-        private final int[] standings = new int[MOST];
-        private final int[] times = new int[MOST];
-        private final int[] firsts = new int[MOST];
-        private final int[] seconds = new int[MOST];
-        private final int[] gainsOfFirst = new int[MOST];
-        private final int[] gainsOfSecond = new int[MOST];
-        private final int[] barred = new int[MOST];
-        private final int[] losses = new int[MOST * MOST];
+        private final int[] standings = new int[MOST_PEOPLE];
+        private final int[] times = new int[MOST_PEOPLE];
+        private final int[] firsts = new int[MOST_BARGAINS];
+        private final int[] seconds = new int[MOST_BARGAINS];
+        private final int[] gainsOfFirst = new int[MOST_BARGAINS];
+        private final int[] gainsOfSecond = new int[MOST_BARGAINS];
+        private final int[] barred = new int[MOST_BARGAINS];
+        private final int[] losses = new int[MOST_BARGAINS * MOST_PEOPLE];
 
         void become(Town from) {
             people = from.people;
@@ -726,7 +728,7 @@ public final class NeedsALoser {
         }
 
         void putLoss(int bargain, int one, int v) {
-            put(losses, bargain * MOST + one, v);
+            put(losses, bargain * MOST_PEOPLE + one, v);
         }
 
         void putBar(int bargain, int other, boolean is) {
@@ -786,7 +788,7 @@ public final class NeedsALoser {
         }
 
         int lossBy(int bargain, int one) {
-            int place = bargain * MOST + one;
+            int place = bargain * MOST_PEOPLE + one;
             return place >= 0 && place < losses.length ? losses[place] : 0;
         }
 
@@ -943,7 +945,7 @@ public final class NeedsALoser {
         static final int VALUE = 0;
         private static final int MADE = 1;
 
-        private final int[] thirds = new int[MOST];
+        private final int[] thirds = new int[MOST_BARGAINS];
         private int made = 0;
         private int taken = 0;
 
@@ -1028,7 +1030,7 @@ public final class NeedsALoser {
 
         private static int bitOfPlace(int bits, int place) {
             int ahead = 0;
-            for (int t = 0; t < MOST; t++) {
+            for (int t = 0; t < MOST_PEOPLE; t++) {
                 if (hasBit(bits, t)) {
                     if (ahead == place) {
                         return t;
@@ -1047,10 +1049,10 @@ public final class NeedsALoser {
         /** A RULE is held as this and its KIND, which is how holds() tells it. */
         private static final int RULE_BASE = 10;
 
-        private final int[] held = new int[MOST];
-        private final int[] sizes = new int[MOST];
-        private final int[] numbers = new int[MOST];
-        private final long[] elements = new long[MOST * WIDTH];
+        private final int[] held = new int[SHELVES];
+        private final int[] sizes = new int[SHELVES];
+        private final int[] numbers = new int[SHELVES];
+        private final long[] elements = new long[SHELVES * WIDTH];
 
         Shelves() {
             for (int s = 0; s < held.length; s++) {
@@ -1059,7 +1061,7 @@ public final class NeedsALoser {
         }
 
         int heldIn(int s) {
-            return isBelow(s, MOST) ? at(held, s) : NONE;
+            return isBelow(s, SHELVES) ? at(held, s) : NONE;
         }
 
         boolean holdsRow(int s) {
@@ -1071,7 +1073,7 @@ public final class NeedsALoser {
         }
 
         int rowRefusal(int s) {
-            if (!isBelow(s, MOST)) {
+            if (!isBelow(s, SHELVES)) {
                 return BAD;
             }
             if (holdsRule(s)) {
@@ -1081,7 +1083,7 @@ public final class NeedsALoser {
         }
 
         int ruleRefusal(int s) {
-            if (!isBelow(s, MOST)) {
+            if (!isBelow(s, SHELVES)) {
                 return BAD;
             }
             if (holdsRow(s)) {
@@ -1091,7 +1093,7 @@ public final class NeedsALoser {
         }
 
         int copyRefusal(int p, int q, int i, int j, int n) {
-            if (!isBelow(p, MOST) || !isBelow(q, MOST)) {
+            if (!isBelow(p, SHELVES) || !isBelow(q, SHELVES)) {
                 return BAD;
             }
             if (holdsRule(p) || holdsRule(q)) {
@@ -1125,7 +1127,7 @@ public final class NeedsALoser {
 
         int countHeld() {
             int count = 0;
-            for (int s = 0; s < MOST; s++) {
+            for (int s = 0; s < SHELVES; s++) {
                 if (heldIn(s) != NONE) {
                     count++;
                 }
@@ -1263,7 +1265,7 @@ public final class NeedsALoser {
         }
 
         private void readOne(Town town) {
-            if (town.people >= MOST) {
+            if (town.people >= MOST_PEOPLE) {
                 fail();
             } else {
                 town.addPerson();
@@ -1272,7 +1274,7 @@ public final class NeedsALoser {
         }
 
         private void readDeal(Town town) {
-            if (town.bargains >= MOST) {
+            if (town.bargains >= MOST_BARGAINS) {
                 fail();
                 return;
             }
@@ -1400,19 +1402,19 @@ public final class NeedsALoser {
      * what decides between ways of the same VALUE, which is always below SCALE.
      */
     private static final class Search {
-        private static final int SETS = 1 << MOST;
+        private static final int SETS = 1 << MOST_BARGAINS;
         private static final long SCALE = 1L << 32;
         /** So far down that no sum of VALUES and costs lifts it up to a way that is one. */
         private static final long NO_WAY = Long.MIN_VALUE / 2;
         private static final int BITS_OF_THIRD = 4;
-        private static final int COST_OF_EACH = 1 << MOST;
+        private static final int COST_OF_EACH = 1 << MOST_PEOPLE;
 
         private final boolean[] apart = new boolean[SETS];
         private final long[] ways = new long[SETS];
         /** The same with the newest third named at least once. */
         private final long[] waysNaming = new long[SETS];
-        private final long[] keys = new long[MOST];
-        private final int[] weights = new int[MOST];
+        private final long[] keys = new long[MOST_BARGAINS];
+        private final int[] weights = new int[MOST_BARGAINS];
 
         int bestValue(Town town, int who) {
             return valueOf(greatestKey(town, who, true));
@@ -1454,7 +1456,7 @@ public final class NeedsALoser {
         }
 
         private static int shiftOf(int bargain) {
-            return BITS_OF_THIRD * (MOST - 1 - bargain);
+            return BITS_OF_THIRD * (MOST_BARGAINS - 1 - bargain);
         }
 
         /** The greatest sum of the weights of a set of BARGAINS no two of which BAR one another. */

@@ -27,7 +27,7 @@ public final class OracleTest {
         NeedsALoser x = new NeedsALoser();
         Model model = new Model();
         // Small towns often, so that the model can try everything; full ones now and then.
-        int people = seed % 40 == 0 ? 8 : 3 + random.nextInt(4);
+        int people = seed % 40 == 0 ? 7 : 3 + random.nextInt(4);
         int bargains = seed % 40 == 0 ? 6 : random.nextInt(6);
         Caller caller = new Caller(random, x, model, people, bargains);
         for (int i = 0; i < CALLS; i++) {
@@ -398,7 +398,7 @@ public final class OracleTest {
         int q;
         int gainOfP;
         int gainOfQ;
-        int[] losses = new int[8];
+        int[] losses = new int[7];
         List<Integer> bars = new ArrayList<>();
 
         Deal twin() {
@@ -569,7 +569,7 @@ public final class OracleTest {
         }
 
         int one() {
-            if (people.size() == 8) {
+            if (people.size() == 7) {
                 return no(-6);
             }
             people.add(new Person());
@@ -580,7 +580,7 @@ public final class OracleTest {
             if (!isOne(p) || !isOne(q) || p == q || !in(g, 0, 99) || !in(h, 0, 99)) {
                 return no(-2);
             }
-            if (deals.size() == 8) {
+            if (deals.size() == 7) {
                 return no(-6);
             }
             Deal d = new Deal();
@@ -681,7 +681,7 @@ public final class OracleTest {
                         }
                         break;
                     case "deal":
-                        if (deals.size() == 8) {
+                        if (deals.size() == 7) {
                             throw here;
                         }
                         int p = number(tokens, places, at, 0, people.size() - 1, -1);
@@ -845,7 +845,7 @@ public final class OracleTest {
                 return no(no);
             }
             List<Integer> named = new ArrayList<>();
-            for (int t = 0; t < 8; t++) {
+            for (int t = 0; t < 7; t++) {
                 if ((set >> t) % 2 == 1) {
                     named.add(t);
                 }
@@ -1217,7 +1217,7 @@ public final class OracleTest {
         }
 
         int hated() {
-            int[] counts = new int[8];
+            int[] counts = new int[7];
             int hated = 0;
             for (Deal d : deals) {
                 for (int t : goodFor(d)) {

@@ -206,41 +206,47 @@ public final class PromisesTest {
     private static void building() {
         NeedsALoser x = new NeedsALoser();
         due("10 nobody yet", x.bargain(0, 1, 1, 1), -2);
-        for (int i = 0; i < 8; i++) {
+        for (int i = 0; i < 7; i++) {
             due("9 one", x.one(), i);
         }
         due("9 full", x.one(), -6);
-        due("10 p", x.bargain(8, 0, 1, 1), -2);
+        due("58 none came", x.status(0), 7);
+        due("9 no number 7", x.standing(7), V_BAD);
+        due("10 p", x.bargain(7, 0, 1, 1), -2);
         due("10 q", x.bargain(0, -1, 1, 1), -2);
         due("10 unlike", x.bargain(3, 3, 1, 1), -2);
         due("10 gain", x.bargain(0, 1, 100, 1), -2);
         due("10 gain", x.bargain(0, 1, 1, -1), -2);
         due("11 no bargain", x.hurts(0, 0, 1), -2);
-        for (int i = 0; i < 8; i++) {
-            due("10 bargain", x.bargain(i, (i + 1) % 8, 99, 0), i);
+        for (int i = 0; i < 7; i++) {
+            due("10 bargain", x.bargain(i, (i + 1) % 7, 99, 0), i);
         }
         due("10 bad ahead of full", x.bargain(0, 0, 1, 1), -2);
         due("10 full", x.bargain(0, 1, 1, 1), -6);
-        due("11 hurts", x.hurts(7, 3, 99), 1);
-        due("11 hurts", x.hurts(7, 2, -99), 1);
-        due("11 a party", x.hurts(7, 7, 50), 1);
-        due("18 told again", x.lossOf(7, 7), 50);
-        due("20 a party counts for nothing", x.good(7), 8);
-        due("11 v", x.hurts(7, 3, 100), -2);
-        due("11 v", x.hurts(7, 3, -100), -2);
-        due("11 one", x.hurts(7, 8, 1), -2);
-        due("11 bargain", x.hurts(8, 1, 1), -2);
+        due("58 full", x.status(16), 2);
+        due("58 none came", x.status(1), 7);
+        due("10 no number 7", x.good(7), -2);
+        due("11 hurts", x.hurts(6, 3, 99), 1);
+        due("11 hurts", x.hurts(6, 2, -99), 1);
+        due("11 a party", x.hurts(6, 6, 50), 1);
+        due("18 told again", x.lossOf(6, 6), 50);
+        due("18 of no other", x.lossOf(5, 6), 0);
+        due("20 a party counts for nothing", x.good(6), 8);
+        due("11 v", x.hurts(6, 3, 100), -2);
+        due("11 v", x.hurts(6, 3, -100), -2);
+        due("11 one", x.hurts(6, 7, 1), -2);
+        due("11 bargain", x.hurts(7, 1, 1), -2);
         due("11 bargain", x.hurts(-1, 1, 1), -2);
-        due("12 bars", x.bars(0, 7, true), 1);
-        due("12 it was so", x.bars(7, 0, true), 0);
+        due("12 bars", x.bars(0, 6, true), 1);
+        due("12 it was so", x.bars(6, 0, true), 0);
         due("12 not so yet", x.bars(1, 2, false), 0);
-        due("17 bits", x.bargainOf(0, 4), 128);
-        due("17 bits", x.bargainOf(7, 4), 1);
-        due("12 no more", x.bars(7, 0, false), 1);
+        due("17 bits", x.bargainOf(0, 4), 64);
+        due("17 bits", x.bargainOf(6, 4), 1);
+        due("12 no more", x.bars(6, 0, false), 1);
         due("17 bits", x.bargainOf(0, 4), 0);
-        due("17 bits", x.bargainOf(7, 4), 0);
+        due("17 bits", x.bargainOf(6, 4), 0);
         due("12 itself", x.bars(1, 1, true), -2);
-        due("12 other", x.bars(1, 8, true), -2);
+        due("12 other", x.bars(1, 7, true), -2);
         due("12 bargain", x.bars(-1, 1, true), -2);
     }
 
@@ -352,8 +358,11 @@ public final class PromisesTest {
         fault("bars 2 0", 5);
         fault("bars 0 2", 7);
         fault("bars 1 1", 7);
-        fault("one;one;one;one;one;one", 20);
-        fault("deal 0 1 1 1;deal 0 1 1 1;deal 0 1 1 1;deal 0 1 1 1;deal 0 1 1 1;deal 0 1 1 1;deal 9", 78);
+        // Of each there is room for 7.
+        due("16 room", read(of("one;one;one"), "one;one;one;one"), 4);
+        fault("one;one;one;one;one", 16);
+        due("16 room", read(of(FOUR), "deal 0 1 1 1;deal 0 1 1 1;deal 0 1 1 1"), 3);
+        fault("deal 0 1 1 1;deal 0 1 1 1;deal 0 1 1 1;deal 0 1 1 1;deal 0 1 1 1;deal 9", 65);
         fault("law 7\t", 5);
         fault("" + (char) 233, 0);
     }
@@ -643,16 +652,16 @@ public final class PromisesTest {
         y.hurts(0, 2, 4);
         y.hurts(0, 3, 4);
         due("30 the first", y.bestOf(0), 2);
-        // Number 7 is a third as well as any, for number 7 as well as for 0.
-        NeedsALoser z = of("one;one;one;one;one;one;one;one;deal 0 1 9 9 hurts 7 1;deal 0 1 9 9 hurts 6 1;"
-                + "deal 0 1 9 9 hurts 5 1;deal 0 1 9 9 hurts 4 1;deal 0 1 9 9 hurts 3 1;deal 0 1 9 9 hurts 2 1;"
-                + "deal 2 3 9 9;deal 2 3 9 9");
-        z.hurts(6, 1, 1);
-        z.hurts(7, 0, 1);
-        for (int b = 0; b < 8; b++) {
-            due("30 of eight", z.bestOf(b), 7 - b);
+        // The last of the PEOPLE is a third as well as any, for the last BARGAIN as well as for the first.
+        NeedsALoser z = of("one;one;one;one;one;one;one;deal 0 1 9 9 hurts 6 1;deal 0 1 9 9 hurts 5 1;"
+                + "deal 0 1 9 9 hurts 4 1;deal 0 1 9 9 hurts 3 1;deal 0 1 9 9 hurts 2 1;"
+                + "deal 2 3 9 9 hurts 1 1;deal 2 3 9 9 hurts 0 1");
+        for (int b = 0; b < 7; b++) {
+            due("30 of seven", z.bestOf(b), 6 - b);
         }
-        due("29 of eight", z.best(), 136);
+        due("29 of seven", z.best(), 119);
+        due("34 of seven", z.fewest(), 127);
+        due("40 of seven", z.free(), 126);
     }
 
     // promise 34
@@ -924,7 +933,7 @@ public final class PromisesTest {
         x.judge(1);
         x.judge(2);
         x.fair();
-        for (int i = 0; i < 13; i++) {
+        for (int i = 0; i < 12; i++) {
             x.one();
         }
         x.bestOf(0);

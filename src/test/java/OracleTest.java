@@ -10,6 +10,7 @@ import java.util.regex.Pattern;
  */
 public final class OracleTest {
     private static final int CALLS = 512;
+    private static final int MOST_TRIED = 20000;
     private static int wrong = 0;
 
     public static void main(String[] args) {
@@ -29,6 +30,11 @@ public final class OracleTest {
         // Small towns often, so that the model can try everything; full ones now and then.
         int people = seed % 40 == 0 ? 7 : 3 + random.nextInt(4);
         int bargains = seed % 40 == 0 ? 6 : random.nextInt(6);
+        if (seed % 10 == 5) {
+            // One more of each than there is room for.
+            people = 8;
+            bargains = 8;
+        }
         Caller caller = new Caller(random, x, model, people, bargains);
         for (int i = 0; i < CALLS; i++) {
             String call = caller.call();
@@ -95,7 +101,11 @@ public final class OracleTest {
                 int h = any(0, 99);
                 return same("bargain", x.bargain(p, q, g, h), m.bargain(p, q, g, h));
             }
-            switch (random.nextInt(7)) {
+            int sort = random.nextInt(7);
+            if (sort == 4 && m.weeksAtMost() > MOST_TRIED) {
+                sort = 5;
+            }
+            switch (sort) {
                 case 0:
                     return shelfCall();
                 case 1:
@@ -201,6 +211,7 @@ public final class OracleTest {
                 switch (random.nextInt(9)) {
                     case 0:
                         text.append(m.people.size() < people ? "one" : "law 1");
+                        text.append(people > 7 && random.nextInt(4) == 0 ? ";one;one;one" : "");
                         break;
                     case 1:
                         text.append("deal ").append(person()).append(' ').append(person()).append(' ').append(any(0, 99));
@@ -372,9 +383,9 @@ public final class OracleTest {
                 case 2:
                     return same("deters", x.deters(), m.deters());
                 case 3:
-                    return same("harm", x.harm(t), m.harm(t));
+                    return m.weeksAtMost() > MOST_TRIED ? null : same("harm", x.harm(t), m.harm(t));
                 case 4:
-                    return same("worst", x.worst(), m.worst());
+                    return m.weeksAtMost() > MOST_TRIED ? null : same("worst", x.worst(), m.worst());
                 default:
                     return same("cross", x.cross(b, c, what), m.cross(b, c, what));
             }
@@ -995,6 +1006,19 @@ public final class OracleTest {
                 all += truth(week);
             }
             return all;
+        }
+
+        /** More WEEKS than there are under any law. */
+        int weeksAtMost() {
+            int count = 1;
+            for (Deal d : deals) {
+                int thirds = 0;
+                for (int t = 0; t < people.size(); t++) {
+                    thirds += d.losses[t] > 0 && t != d.p && t != d.q ? 1 : 0;
+                }
+                count *= thirds + 1;
+            }
+            return count;
         }
 
         /** All WEEKS that CAN be, in the order of their rows, those alone named that are in a set. */

@@ -282,6 +282,10 @@ public final class PromisesTest {
         due("16 only blanks", x.town(), -21);
         due("16 empty after", x.status(8), 0);
         due("16 empty", x.town(), -20);
+        texts(new NeedsALoser());
+    }
+
+    private static void texts(NeedsALoser x) {
         due("16 read", read(x, FOUR), 9);
         due("16 empty after", x.status(8), 0);
         due("58 people", x.status(0), 4);

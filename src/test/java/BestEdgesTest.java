@@ -158,6 +158,24 @@ public final class BestEdgesTest {
         due("seed", x.status(9), 1);
     }
 
+    static void p29_theFirstOfThePeopleAndTheLast() {
+        NeedsALoser x = of(7);
+        x.bargain(2, 3, 9, 0);
+        x.bargain(2, 3, 9, 0);
+        x.hurts(0, 0, 1);
+        x.hurts(1, 6, 1);
+        due("best", x.best(), 16);
+        dueThirds(x, 0, 6);
+        due("worth of the first", x.worth(0), 8);
+        due("worth of the last", x.worth(6), 8);
+        due("dearest", x.dearest(), 0);
+        due("fewest", x.fewest(), 65);
+        due("harm of the first", x.harm(0), 1);
+        due("harm of the last", x.harm(6), 1);
+        due("hiding by the first", x.hiding(0, 0), 0);
+        due("hiding by the last", x.hiding(0, 6), 0);
+    }
+
     // ---- 30: bestOf ----
 
     static void p30_noneAheadOfAnyThird() {
@@ -363,6 +381,7 @@ public final class BestEdgesTest {
         due("nobody", of(0).free(), 0);
         due("no bargains", of(7).free(), 0);
         due("gains of 0", oneDeal(0).free(), 0);
+        due("one bargain", oneDeal(9).free(), 9);
     }
 
     static void p40_theGreatestOfAll() {
@@ -535,6 +554,25 @@ public final class BestEdgesTest {
         due("round", x.rings(), 1);
     }
 
+    static void p42_anyOfTheThreeMissing() {
+        int[][] oneWay = {{0, 2}, {1, 4}, {2, 0}};
+        int[][] otherWay = {{0, 4}, {2, 2}, {1, 0}};
+        for (int missing = 0; missing < 3; missing++) {
+            NeedsALoser x = three();
+            NeedsALoser y = three();
+            for (int i = 0; i < 3; i++) {
+                x.hurts(oneWay[i][0], oneWay[i][1], i == missing ? 0 : 1);
+                y.hurts(otherWay[i][0], otherWay[i][1], i == missing ? 0 : 1);
+            }
+            due("one way without " + missing, x.rings(), 0);
+            due("the other way without " + missing, y.rings(), 0);
+            x.hurts(oneWay[missing][0], oneWay[missing][1], 1);
+            y.hurts(otherWay[missing][0], otherWay[missing][1], 1);
+            due("one way", x.rings(), 1);
+            due("the other way", y.rings(), 1);
+        }
+    }
+
     static void p42_bothWaysRoundIsOneSet() {
         NeedsALoser x = three();
         for (int b = 0; b < 3; b++) {
@@ -616,6 +654,15 @@ public final class BestEdgesTest {
         due("7 barred by both", x.harm(2), 11);
         x.ask(0, 6);
         due("only 7 and 6 are good", x.harm(2), 7);
+    }
+
+    static void p43_ofOneBargainAlone() {
+        NeedsALoser x = oneDeal(9, 5);
+        due("once 1", x.harm(2), 5);
+        x.ask(1, 0);
+        due("once 0", x.harm(2), 5);
+        deal(x, 9);
+        due("the first of two", x.harm(2), 5);
     }
 
     static void p43_whateverItsValueBe() {
@@ -806,6 +853,26 @@ public final class BestEdgesTest {
         due("all pairs of seven", x.dares(), 35);
         x.ask(3, 999);
         due("no fine is paid", x.dares(), 35);
+    }
+
+    static void p47_theFirstOfThePeopleAndTheLast() {
+        NeedsALoser x = of(7);
+        x.bargain(2, 3, 9, 0);
+        x.ask(3, 0);
+        for (int t = 0; t < 7; t++) {
+            x.hurts(0, t, 1);
+        }
+        due("none", x.dares(), 0);
+        due("deters", x.deters(), 0);
+        x.hurts(0, 0, 0);
+        due("by the first", x.dares(), 1);
+        due("deters", x.deters(), 9);
+        due("said", x.said(0, 0), 45);
+        x.hurts(0, 0, 1);
+        x.hurts(0, 6, -1);
+        due("by the last", x.dares(), 1);
+        due("deters", x.deters(), 10);
+        due("said", x.said(0, 6), 50);
     }
 
     // ---- 48: deters ----

@@ -676,6 +676,14 @@ public final class ShelfEdgesTest {
         }
     }
 
+    static void p08_numberZeroIsNobodyNamedYetEither() {
+        NeedsALoser x = read("one;one;one;one;deal 2 3 1 1 hurts 0 1");
+        for (int kind = 1; kind <= 6; kind++) {
+            x.rule(0, kind, 0);
+            due(kind + " as itself", x.says(0, kind), 0);
+        }
+    }
+
     static void p08_itIsBargainZeroThatIsAskedForAndNobodyNamedYet() {
         NeedsALoser x = read("one;one;one;one;deal 0 1 1 1 hurts 3 1;deal 0 1 1 1 hurts 2 1");
         x.rule(0, 1, 0);

@@ -231,6 +231,25 @@ public final class TapeEdgesTest {
         fault("o ne", 0);
     }
 
+    static void p16_wordsThatAreNotQuiteTheseWords() {
+        String[] words = {"one", "deal 0 1 1 1", "gains 0 2 1", "bars 0 1", "law 1", "once 1", "court 1", "fine 1"};
+        for (String text : words) {
+            int length = (text + " ").indexOf(' ');
+            for (int i = 0; i < length; i++) {
+                char letter = text.charAt(i);
+                fault(text.substring(0, i) + (char) (letter == 'z' ? 'a' : letter + 1) + text.substring(i + 1), 0);
+            }
+            fault(text.substring(1), 0);
+            fault(text.substring(0, length - 1) + text.substring(length), 0);
+            fault(text.substring(0, length) + "s" + text.substring(length), 0);
+            fault(text.substring(0, 1).toUpperCase() + text.substring(1), 0);
+        }
+        fault("deal 0 1 1 1 gurts 2 1", 13);
+        fault("deal 0 1 1 1 hurtt 2 1", 13);
+        fault("deal 0 1 1 1 hurt 2 1", 13);
+        fault("deal 0 1 1 1 hurtss 2 1", 13);
+    }
+
     static void p16_numbersAreAsLongAsCanBe() {
         due("12", taken("law 12", 1).status(4), 12);
         due("120", taken("fine 120", 1).status(7), 120);

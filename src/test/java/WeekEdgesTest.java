@@ -126,6 +126,31 @@ public final class WeekEdgesTest {
         due("not good by them", named(x, SWORN, 4, 0), 3);
     }
 
+    static void p22_swornByANumberWhoseLowestBitsAreThoseOfOneWhoMay() {
+        // 1 is mild; 32, 64 and 96 aren't 0, though a bit of that place were.
+        NeedsALoser x = of(4);
+        x.bargain(2, 3, 9, 9);
+        x.hurts(0, 0, 2);
+        x.hurts(0, 1, 1);
+        due("0", named(x, SWORN, 0, 0), 0);
+        int[] none = {31, 32, 63, 64, 96};
+        for (int a : none) {
+            due("a " + a, named(x, SWORN, a, 0), 1);
+        }
+    }
+
+    static void p22_theFirstOfThePeopleAndTheLast() {
+        NeedsALoser x = of(7);
+        x.bargain(2, 3, 99, 9);
+        x.hurts(0, 0, 1);
+        x.hurts(0, 6, 1);
+        for (int kind = MILD; kind <= ROUND; kind++) {
+            due("the first, by " + kind, named(x, kind, 0, 0), 0);
+            due("the last, by " + kind, named(x, kind, 6, 1), 6);
+            due("neither, by " + kind, named(x, kind, 6, 65), NONE);
+        }
+    }
+
     static void p22_richTakesTheGreatestStandingAndOfSeveralTheFirst() {
         NeedsALoser x = oneDeal(9, 5, 4, 6);
         due("all alike", named(x, RICH, 0, 0), 2);
@@ -854,6 +879,19 @@ public final class WeekEdgesTest {
         due("3", x.named(3), 2);
         x.week();
         due("5", x.named(5), 1);
+    }
+
+    static void p52_theFirstOfThePeopleAndTheLast() {
+        // Of 0 and 6; from SEED 1 the upper bits modulo 2 are 0, 0, 1, 1.
+        NeedsALoser x = of(7);
+        x.bargain(2, 3, 9, 9);
+        x.hurts(0, 0, 1);
+        x.hurts(0, 6, 1);
+        x.weeks(2);
+        due("the first", x.named(0), 2);
+        x.weeks(2);
+        due("the last", x.named(6), 2);
+        due("the first", x.named(0), 2);
     }
 
     static void p52_namedOnceInAWeek() {

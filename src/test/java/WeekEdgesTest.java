@@ -202,6 +202,19 @@ public final class WeekEdgesTest {
         due("a value of 98", named(x, CHEAP, 99, 0), NONE);
     }
 
+    static void p22_cheapNamesNobodyWhateverNumbersThereAre() {
+        // The third, the BARGAIN and a may be the same number: a VALUE of -1 is too dear.
+        for (int t = 0; t < 7; t++) {
+            NeedsALoser x = of(7);
+            x.bargain((t + 1) % 7, (t + 2) % 7, 0, 0);
+            x.hurts(0, t, 1);
+            for (int a = 0; a < 8; a++) {
+                due("by " + t + ", a " + a, named(x, CHEAP, a, 0), NONE);
+            }
+            due("mild", named(x, MILD, 0, 0), t);
+        }
+    }
+
     static void p22_cheapOnlyOfThoseWhoMay() {
         NeedsALoser x = oneDeal(9, 5, 4, 6);
         due("3 named already", named(x, CHEAP, 4, 8), 2);
@@ -223,6 +236,17 @@ public final class WeekEdgesTest {
         due("past the last and the first", named(x, ROUND, 4, 20), 3);
         due("all but the one just ahead", named(x, ROUND, 3, 24), 2);
         due("only itself, the last", named(x, ROUND, 4, 12), 4);
+    }
+
+    static void p22_roundFromEachToTheFirstAndTheLast() {
+        // Only 0 and 6 may.
+        NeedsALoser x = of(7);
+        x.bargain(2, 3, 9, 9);
+        x.hurts(0, 0, 1);
+        x.hurts(0, 6, 1);
+        for (int a = 0; a < 100; a++) {
+            due("a " + a, named(x, ROUND, a, 0), a % 7 == 0 ? 0 : 6);
+        }
     }
 
     static void p22_roundModuloHowManyPeopleThereAre() {

@@ -499,6 +499,23 @@ public final class TownEdgesTest {
         due("good", x.good(0), 124);
     }
 
+    static void p20_inAFullTown() {
+        NeedsALoser x = of(7);
+        for (int b = 0; b < 7; b++) {
+            x.bargain(b, (b + 1) % 7, 0, 0);
+            for (int t = 0; t < 7; t++) {
+                x.hurts(b, t, 9);
+            }
+        }
+        for (int b = 0; b < 7; b++) {
+            due("good " + b, x.good(b), 127 - (1 << b) - (1 << (b + 1) % 7));
+        }
+        for (int t = 0; t < 7; t++) {
+            due("alone " + t, x.alone(t), 0);
+            due("party " + t, x.party(t), 1 << t | 1 << (t + 6) % 7);
+        }
+    }
+
     static void p20_bargainsThatAreNone() {
         NeedsALoser x = of(2, 2);
         due("the last", x.good(1), 0);
@@ -898,6 +915,41 @@ public final class TownEdgesTest {
         }
         due("one", x.one(), -6);
         due("bargain", x.bargain(0, 1, 1, 1), -6);
+    }
+
+    static void p57_whatIsAskedForIsThatOfTheTownThereIsAgain() {
+        NeedsALoser x = of(4);
+        x.bargain(0, 1, 9, 0);
+        x.hurts(0, 2, 4);
+        x.image();
+        for (int i = 0; i < 3; i++) {
+            x.one();
+        }
+        for (int b = 1; b < 7; b++) {
+            x.bargain(5, 6, 99, 99);
+            x.hurts(b, b - 1, 50 + b);
+        }
+        x.ask(1, 0);
+        due("free of seven", x.free(), 9 + 6 * 198);
+        // 0 to 4 lose 51 to 55; 5, a PARTY, is no third.
+        due("best of six", x.best(), 5 + 5 * 198 - 51 - 52 - 53 - 54 - 55);
+        due("fewest", x.fewest(), 31);
+        due("harm", x.harm(2), 4 + 53);
+        due("rings", x.rings(), 0);
+        x.back();
+        due("free of one", x.free(), 9);
+        due("best of one", x.best(), 5);
+        due("bestOf", x.bestOf(0), 2);
+        due("fewest", x.fewest(), 4);
+        due("harm", x.harm(2), 4);
+        due("worst", x.worst(), 2);
+        due("hated", x.hated(), 2);
+        due("never", x.never(), 0);
+        due("dares", x.dares(), 0);
+        x.ask(1, 0);
+        due("harm", x.harm(2), 4);
+        due("free of one", x.free(), 9);
+        due("week", x.week(), 1);
     }
 
     // ---- 58: status ----
